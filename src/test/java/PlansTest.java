@@ -49,7 +49,9 @@ public final class PlansTest {
         Check.due("14 none", road.hinders(0, 0, 0, 10, 20), 0);
         Check.due("14 next to a clearance of 0", road.hinders(0, 0, 0, 36, 11), 0);
         Check.due("14 too short", road.hinders(0, 0, 0, 50, 9), 1);
+        Check.due("14 the shortest one", road.hinders(0, 0, 0, 10, 1), 1);
         Check.due("14 too long", road.hinders(0, 0, 0, 50, 56), 2);
+        Check.due("14 the longest one", road.hinders(0, 0, 3, 59, 60), 2);
         Check.due("14 on together beyond the end of the cycle", road.hinders(0, 0, 0, 4, 10), 3);
         Check.due("14 around the other one", road.hinders(0, 0, 0, 20, 20), 3);
         Check.due("14 within the other one", road.hinders(0, 0, 0, 51, 10), 3);

@@ -39,12 +39,21 @@ public final class RoadTest {
         Check.dueThrow("2 green in plan 1", Check.STATE, () -> road.cycle(60));
         Check.dueThrow("2 argument goes first", Check.ARGUMENT, () -> road.cycle(0));
         road.dark(0, 1, 1);
+        road.green(0, 0, 0, 0, 10);
+        Check.dueThrow("2 green in plan 0", Check.STATE, () -> road.cycle(60));
+        road.dark(0, 0, 0);
         Check.due("2 no green any more", road.cycle(61), 60);
         road.change(0);
         Check.dueThrow("2 change is planned", Check.STATE, () -> road.cycle(60));
         road.run(1);
         Check.due("2 change is over", road.cycle(60), 61);
         Check.due("2 it stands", road.account(11), 60);
+        road.undo();
+        Check.due("2 it goes back", road.account(11), 61);
+        for (int position = 1; position < 4; position++) {
+            road.junction(position);
+        }
+        Check.due("2 with four junctions", road.cycle(70), 61);
     }
 
     private static void speed() {

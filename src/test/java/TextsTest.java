@@ -95,11 +95,13 @@ public final class TextsTest {
         String[] texts = {"", ":", "g", "gre", "greens:1;", "Run:1;", "run", "runs", "run1:1;", "run:", "run:;",
             "run:1", "run:1,", "run:01;", "run:0", "run:00;", "run:1234", "run:12345;", "run:-1;", "run:1;;", "run:1;r",
             "run:1;run", "run:1;x:1;", "offset:1;", "offset:1,;", "offset:1,2,3;", "road:1,2;", "press:1:2;",
-            "green:1,2,3,4;", "green:1,2,3,4,5,6;", "change:a;", "run:1;5", "press:1,x", "run:1a;", "xrun:1;", "run:1;run:2"};
+            "green:1,2,3,4;", "green:1,2,3,4,5,6;", "change:a;", "run:1;5", "press:1,x", "run:1a;", "xrun:1;", "run:1;run:2",
+            "toad:0,0,0;", "roar:0,0,0;", "rued:0,0,0;"};
         int[] due = {0, 0, 0, 0, 0, 0, 3, 0, 3, 4, 4,
             5, 5, 5, 5, 5, 8, 8, 4, 6, 6,
             9, 6, 8, 9, 10, 8, 7,
-            13, 15, 7, 6, 8, 5, 0, 11};
+            13, 15, 7, 6, 8, 5, 0, 11,
+            0, 0, 0};
         for (int k = 0; k < texts.length; k++) {
             String text = texts[k];
             Check.dueThrow("36 " + text, Check.ARGUMENT, () -> Check.carryOut(road, text));

@@ -107,6 +107,16 @@ public final class TripsTest {
             Check.due("23 there at " + time, road.tripAgain(0, time), road.trip(0, time, 0));
             Check.due("23 back at " + time, road.tripAgain(1, time), road.trip(1, time, 0));
         }
+        SignalRoad rounded = new SignalRoad();
+        rounded.speed(10);
+        for (int k = 0; k < 2; k++) {
+            rounded.junction(101 * k);
+            rounded.group(k, 0, 4, false);
+            rounded.green(k, 0, 0, 0, 55);
+            rounded.road(k, 0, 0);
+        }
+        Check.due("22 rounded up", rounded.trip(0, 0, 0), 11);
+        Check.due("23 rounded up", rounded.tripAgain(0, 0), 11);
         Check.dueThrow("23 no direction", Check.ARGUMENT, () -> road.tripAgain(2, 0));
         Check.dueThrow("23 time too great", Check.ARGUMENT, () -> road.tripAgain(0, 100000));
         Check.dueThrow("23 negative time", Check.ARGUMENT, () -> road.tripAgain(0, -1));
@@ -144,6 +154,10 @@ public final class TripsTest {
         Check.due("25 the band then", road.band(0), 15);
         // The second one is on for the starts 55 to 14 and the third one at 16 to 35 as well.
         Check.due("25 the first one in this direction", road.bestOffset(0, 0), 55);
+        SignalRoad narrow = road();
+        narrow.offset(2, 5);
+        // The others let the start 19 pass alone; it comes to the second one at 29.
+        Check.due("25 a band of one second", narrow.bestOffset(1, 0), 5);
         SignalRoad never = road();
         never.offset(0, 30);
         Check.due("25 no band at all", never.bestOffset(2, 0), 0);

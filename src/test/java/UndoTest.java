@@ -156,5 +156,18 @@ public final class UndoTest {
         Check.due("41 in place of what was saved", other.save(), 3);
         other.undo();
         Check.due("42 the new one", other.restore(), 3);
+        SignalRoad anew = new SignalRoad();
+        anew.cycle(90);
+        anew.junction(5);
+        anew.group(0, 2, 9, true);
+        anew.save();
+        String first = picture(anew);
+        anew.undo();
+        anew.undo();
+        anew.undo();
+        anew.junction(7);
+        anew.group(0, 1, 4, false);
+        anew.restore();
+        Check.due("42 a junction that was made anew", picture(anew), first);
     }
 }
