@@ -64,8 +64,13 @@ public final class SignalRoad {
     private static final int REFUSED = 4;
     private static final int NOT_THERE = 5;
 
-    private static final int SHARE_ONE = 1 << 23;
-    private static final int SHARE_BIAS = 127;
+    /* Numbers of accounts that are used elsewhere, too. */
+    private static final int SERVED_REQUESTS = 6;
+    private static final int WAITED_SECONDS = 8;
+
+    /* A float's bits: 23 for the fraction, above them the exponent plus 127. */
+    private static final int FRACTION_BITS = 23;
+    private static final int EXPONENT_OF_ONE = 127;
 
     private final State state = new State();
     private final State before = new State();
@@ -398,11 +403,11 @@ public final class SignalRoad {
 
     /** Returns the mean of the seconds for which the served requests waited. */
     public double meanWait() throws ArithmeticException {
-        int served = state.sumOf(6);
+        int served = state.sumOf(SERVED_REQUESTS);
         if (served < 1) {
             throw new ArithmeticException("no request was served");
         }
-        return (double) state.sumOf(8) / (double) served;
+        return (double) state.sumOf(WAITED_SECONDS) / (double) served;
     }
 
     // ---- texts
@@ -723,12 +728,13 @@ public final class SignalRoad {
             return 0;
         }
         float scaled = share;
-        int exponent = SHARE_BIAS;
+        int exponent = EXPONENT_OF_ONE;
         while (scaled < 1 && exponent > 1) {
             scaled = scaled * 2;
             exponent--;
         }
-        return (exponent << 23) + ((int) (scaled * SHARE_ONE) - SHARE_ONE);
+        int one = 1 << FRACTION_BITS;
+        return (exponent << FRACTION_BITS) + (int) (scaled * one) - one;
     }
 
     /** All that goes back when a change is undone. */
@@ -924,9 +930,9 @@ public final class SignalRoad {
                 case 2: return conflictCount();
                 case 3: return greenCount(0) + greenCount(1);
                 case 5: return litSum();
-                case 6: return served;
+                case SERVED_REQUESTS: return served;
                 case 7: return waitingCount();
-                case 8: return waitedSeconds;
+                case WAITED_SECONDS: return waitedSeconds;
                 case 9: return isChangePlanned() ? 1 : 0;
                 case 10: return headSum();
                 default: return 0;
