@@ -91,7 +91,12 @@ final class Rows {
                 : String.valueOf(Float.floatToIntBits((float) upper / (float) lower));
     }
 
-    /** An object that is asked; nothing is promised after its 512th call. */
+    /** Nothing is promised of an object after its 512th call, so that no row may go on then. */
+    private static final class CallsAreOver extends RuntimeException {
+        private static final long serialVersionUID = 1;
+    }
+
+    /** An object that is asked. */
     private static final class Asked {
         private static final int MOST_CALLS = 512;
         private static final Map<String, Method> METHODS = new HashMap<>();
@@ -132,7 +137,7 @@ final class Rows {
         private void count(int more) {
             calls += more;
             if (calls > MOST_CALLS) {
-                throw new IllegalStateException("a run of more than 512 calls");
+                throw new CallsAreOver();
             }
         }
 
@@ -180,9 +185,19 @@ final class Rows {
 
         // ---- what can be seen
 
-        /** Ends with what is behind the state: the changes that can be undone, and what was saved. */
+        /** Looks as far as the calls that an object is used for go. */
         String allSeen(boolean isReasonKept, boolean isText) {
             StringBuilder text = new StringBuilder();
+            try {
+                seeAll(text, isReasonKept, isText);
+            } catch (CallsAreOver e) {
+                return text.toString();
+            }
+            return text.toString();
+        }
+
+        /** Ends with what is behind the state: the changes that can be undone, and what was saved. */
+        private void seeAll(StringBuilder text, boolean isReasonKept, boolean isText) {
             see(text, "refusal", isReasonKept ? 0 : 1);
             see(text, "errorPosition", isText ? 0 : 1);
             seeAccounts(text, isText ? 13 : 14);
@@ -201,7 +216,6 @@ final class Rows {
             if (!see(text, "restore", 1).endsWith("Exception")) {
                 seeAccounts(text, 13);
             }
-            return text.toString();
         }
 
         /** Asks once or not at all; returns the answer. */
@@ -256,7 +270,8 @@ final class Rows {
                     String[] green = {String.valueOf(junction), String.valueOf(plan), String.valueOf(g), "true"};
                     String length = answer("greenOf", green);
                     green[3] = "false";
-                    text.append("green ").append(length).append(' ').append(answer("greenOf", green)).append('\n');
+                    String first = answer("greenOf", green);
+                    text.append("green ").append(length).append(' ').append(first).append('\n');
                 }
             }
             if (groups > 0) {
