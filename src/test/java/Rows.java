@@ -10,12 +10,16 @@ import java.util.Set;
  * Runs of calls, written a call a line: "offset 0 59 = 7" is due to answer 7, "offset 0 60 ! IllegalArgument" to
  * throw, and a line with neither is only not to throw. Behind " # " stands a remark. "3 x run 300" is called three
  * times, "write run:1;" appends a text, and "says 0" is the report on junction 0 as a text. After each call that
- * throws, and after each one that only tells something, all that can be seen must be as if it had not been called.
+ * throws, and after each one that only tells something, all that can be seen must be as if it had not been called;
+ * the same after each change that is undone, or ahead of which all was saved and is restored.
  */
 final class Rows {
     private static final Set<String> QUESTIONS = Set.of("told", "groupTold", "clearance", "hinders", "phase", "greenOf",
             "shows", "picture", "refusal", "trip", "tripAgain", "band", "bestOffset", "share", "soonest", "account",
             "litShare", "meanWait", "errorPosition", "character");
+    private static final Set<String> CHANGES = Set.of("cycle", "speed", "junction", "group", "conflict", "peace", "green",
+            "dark", "make", "offset", "road", "press", "run", "change", "mount", "text");
+    private static final int MOST_CHANGES = 8;
 
     private Rows() {
     }
@@ -55,6 +59,9 @@ final class Rows {
             }
             if (row.mark() == '!' || QUESTIONS.contains(row.call())) {
                 staysAsItWas(title, rows, k);
+            } else if (CHANGES.contains(row.call()) && row.times() <= MOST_CHANGES) {
+                goesBack(title, rows, k);
+                isRestored(title, rows, k);
             }
         }
     }
@@ -62,13 +69,37 @@ final class Rows {
     private static void staysAsItWas(String title, List<Row> rows, int last) {
         Asked with = new Asked();
         Asked without = new Asked();
-        for (int k = 0; k <= last; k++) {
-            with.answerTo(rows.get(k));
-            if (k < last) {
-                without.answerTo(rows.get(k));
-            }
-        }
-        Row row = rows.get(last);
+        with.answerTo(rows.subList(0, last + 1));
+        without.answerTo(rows.subList(0, last));
+        dueAlike(title + ", and the state", rows.get(last), with, without);
+    }
+
+    /** A change by which nothing changes takes the oldest one away from those that can be undone, too. */
+    private static void goesBack(String title, List<Row> rows, int last) {
+        int times = rows.get(last).times();
+        Row undo = Row.of(times + " x undo");
+        Asked with = new Asked();
+        Asked without = new Asked();
+        with.answerTo(rows.subList(0, last + 1));
+        with.answerTo(List.of(undo));
+        without.answerTo(rows.subList(0, last));
+        without.answerTo(List.of(Row.of(times + " x speed " + without.answer("account", "12")), undo));
+        dueAlike(title + ", and undone", rows.get(last), with, without);
+    }
+
+    private static void isRestored(String title, List<Row> rows, int last) {
+        Row save = Row.of("save");
+        Row restore = Row.of("restore");
+        Asked with = new Asked();
+        Asked without = new Asked();
+        with.answerTo(rows.subList(0, last));
+        with.answerTo(List.of(save, rows.get(last), restore));
+        without.answerTo(rows.subList(0, last));
+        without.answerTo(List.of(save, restore));
+        dueAlike(title + ", and restored", rows.get(last), with, without);
+    }
+
+    private static void dueAlike(String title, Row row, Asked with, Asked without) {
         boolean isText = row.call().equals("text");
         boolean isReasonKept = isText || row.due().equals("UnsupportedOperation");
         String[] got = with.allSeen(isReasonKept, isText).split("\n");
@@ -77,7 +108,7 @@ final class Rows {
         while (line + 1 < Math.min(got.length, due.length) && got[line].equals(due[line])) {
             line++;
         }
-        Check.due(title + ", and the state", got[line], due[line]);
+        Check.due(title, got[line], due[line]);
     }
 
     private static String valueOf(Row row) {
@@ -109,6 +140,12 @@ final class Rows {
 
         private final SignalRoad road = new SignalRoad();
         private int calls;
+
+        void answerTo(List<Row> rows) {
+            for (Row row : rows) {
+                answerTo(row);
+            }
+        }
 
         String answerTo(Row row) {
             String answer = "";
