@@ -48,7 +48,7 @@ public final class AccountsTest {
         Check.dueThrow("33 no junction", Check.INDEX, () -> road.litShare(1, 0));
         Check.dueThrow("33 no group", Check.INDEX, () -> road.litShare(0, 2));
         Check.dueThrow("33 no time", Check.ARITHMETIC, () -> road.litShare(0, 0));
-        for (int time = 1; time <= 200; time++) {
+        for (int time = 1; time <= 160; time++) {
             road.run(1);
             int lit = road.groupTold(0, 0, 4);
             int bits = Float.floatToIntBits((float) lit / (float) time);
@@ -58,7 +58,7 @@ public final class AccountsTest {
         SignalRoad late = Check.roadWith(4);
         late.cycle(120);
         late.green(0, 0, 0, 119, 4);
-        for (int k = 0; k < 300; k++) {
+        for (int k = 0; k < 120; k++) {
             late.run(k % 2 == 0 ? 300 : 7);
             int lit = late.groupTold(0, 0, 4);
             int bits = Float.floatToIntBits((float) lit / (float) late.account(4));
@@ -69,7 +69,7 @@ public final class AccountsTest {
         once.run(1);
         Check.due("33 always lit", once.litShare(0, 0), 0x3f800000);
         once.dark(0, 0, 0);
-        for (int k = 0; k < 332; k++) {
+        for (int k = 0; k < 160; k++) {
             once.run(300);
             int bits = Float.floatToIntBits(1f / (float) once.account(4));
             Check.due("33 lit for a single second", once.litShare(0, 0), bits);

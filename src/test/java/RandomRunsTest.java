@@ -9,6 +9,8 @@ import java.util.Random;
 /** Random runs of 512 calls, answered by the program and by the model of the document. */
 public final class RandomRunsTest {
     private static final int CALLS = 512;
+    /** A text of up to three commands is appended by 27 calls at most. */
+    private static final int CALLS_OF_TEXT = 28;
     private static final String[] WORDS = {"green", "offset", "press", "run", "change", "road"};
     private static final int[] NUMBERS = {5, 2, 2, 1, 1, 3};
     private static final int[] WILD = {-1, Integer.MIN_VALUE, Integer.MAX_VALUE, 7, 121, 100000, -2};
@@ -52,6 +54,9 @@ public final class RandomRunsTest {
             while (log.size() < CALLS) {
                 Method method = pool.get(random.nextInt(pool.size()));
                 if (method.getName().equals("text")) {
+                    if (log.size() + CALLS_OF_TEXT > CALLS) {
+                        continue;
+                    }
                     writeText();
                 }
                 ask(method, arguments(method));

@@ -5,8 +5,10 @@ import java.lang.management.ManagementFactory;
  * nothing make no objects.
  */
 public final class RoomTest {
-    /** What the test's own means may take, such as the counter of bytes itself. */
-    private static final long SPARE_BYTES = 4096;
+    private static final com.sun.management.ThreadMXBean THREADS =
+            (com.sun.management.ThreadMXBean) ManagementFactory.getThreadMXBean();
+    /** What the counter of bytes may take itself; less than an object for each of the ten times that a call is made. */
+    private static final long SPARE_BYTES = 128;
     /** Far below the room for 7.3 million elements. */
     private static final long MOST_BYTES_OF_ROAD = 64 * 1024;
 
@@ -21,9 +23,7 @@ public final class RoomTest {
     }
 
     private static long bytes() {
-        com.sun.management.ThreadMXBean threads =
-                (com.sun.management.ThreadMXBean) ManagementFactory.getThreadMXBean();
-        return threads.getCurrentThreadAllocatedBytes();
+        return THREADS.getCurrentThreadAllocatedBytes();
     }
 
     private static void measure(long[] result) {
@@ -32,7 +32,7 @@ public final class RoomTest {
         result[0] = bytes() - start;
         build(road);
         start = bytes();
-        for (int k = 0; k < 20; k++) {
+        for (int k = 0; k < 10; k++) {
             callAll(road);
         }
         result[1] = bytes() - start;

@@ -87,7 +87,7 @@ public final class UndoTest {
                     text.append(road.clearance(j, g, other)).append(' ');
                 }
             }
-            for (int second = 0; second < road.account(11); second++) {
+            for (int second = 0; second < 60; second += 6) {
                 text.append(road.shows(j, 0, second)).append(road.shows(j, 1, second)).append(' ');
             }
         }
