@@ -428,6 +428,15 @@ public final class PlansEdgesTest {
                 picture 0 0 3 = 2
                 picture 0 0 4 ! NoSuchElement
                 """);
+        Rows.run("20 a set of the first second", THREE_GROUPS, """
+                green 0 0 0 51 10 = 1
+                green 0 0 1 1 4 = 2
+                picture 0 0 -1 = 3
+                picture 0 0 0 = 1 # at 0 alone, and again from 51 on
+                picture 0 0 1 = 2
+                picture 0 0 2 = 0
+                picture 0 0 3 ! NoSuchElement
+                """);
         Rows.run("20 no empty set", """
                 cycle 30 = 60
                 junction 3 = 0

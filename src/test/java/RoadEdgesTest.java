@@ -424,6 +424,19 @@ public final class RoadEdgesTest {
                 groupTold 0 0 4 = 1
                 told 0 7 = 3
                 """);
+        Rows.run("7 planned changes included: back to plan 0", two, """
+                change 0 = 0
+                run 1 = 1
+                told 0 4 = 1
+                offset 0 3 = 55
+                told 0 3 = 58
+                told 0 7 = 0
+                change 0 = 0
+                told 0 7 = 2 # by plan 0, in which group 0 has begun a second ago
+                run 1 = 0
+                told 0 4 = 0
+                groupTold 0 1 4 = 1
+                """);
         Rows.run("7 planned changes included: none is given then", two, """
                 run 52 = 0
                 told 0 3 = 57

@@ -580,6 +580,17 @@ public final class TimeEdgesTest {
                 conflict 0 0 2 0 0 = 1
                 soonest 0 = 0 # even while both are on
                 """);
+        Rows.run("29 group 0 is the latter one", """
+                junction 0 = 0
+                2 x group 0 2 4 false = 1
+                conflict 0 0 1 0 3 = 1
+                green 0 0 1 0 30 = 1
+                green 0 1 0 0 40 = 1
+                run 10 = 0
+                soonest 0 = 23 # at 33
+                conflict 0 0 1 20 2 = 1
+                soonest 0 = 22
+                """);
         Rows.run("29 the higher group is the former one", """
                 junction 0 = 0
                 3 x group 0 2 4 false = 2

@@ -587,6 +587,48 @@ public final class TripsEdgesTest {
                 bestOffset 1 0 = 5 # 5 to 11
                 band 0 = 0
                 """);
+        Rows.run("25 a band that is far smaller than the green before it", TWO_JUNCTIONS, """
+                green 0 0 0 5 55 = 1
+                green 1 0 0 1 4 = 1
+                bestOffset 1 0 = 5 # 6 to 9
+                band 0 = 0
+                offset 1 5 = 0
+                band 0 = 4
+                """);
+        Rows.run("25 a greatest band of one second", """
+                junction 0 = 0
+                junction 14 = 1
+                junction 28 = 2
+                group 0 0 4 false = 0
+                group 1 0 4 false = 0
+                group 2 0 4 false = 0
+                road 0 0 0 = -1
+                road 1 0 0 = -1
+                road 2 0 0 = -1
+                green 0 0 0 0 4 = 1
+                green 1 0 0 4 4 = 1
+                green 2 0 0 50 4 = 1
+                bestOffset 2 0 = 12 # 5 is the only one, and the first one with which it is on is 12
+                offset 2 11 = 0
+                band 0 = 0
+                offset 2 12 = 11
+                band 0 = 1
+                """);
+        Rows.run("25 each time of the cycle counts once", TWO_JUNCTIONS, """
+                dark 0 0 0 = 4
+                dark 1 0 0 = 4
+                cycle 100 = 60
+                green 0 0 0 15 20 = 1
+                green 1 0 0 20 4 = 1
+                bestOffset 1 0 = 0 # 96 to 12 are alike
+                band 0 = 4
+                dark 0 0 0 = 20
+                dark 1 0 0 = 4
+                cycle 120 = 100
+                green 0 0 0 110 20 = 1
+                green 1 0 0 1 20 = 1
+                bestOffset 1 0 = 110
+                """);
         Rows.run("25 the least one around 0", """
                 cycle 30 = 60
                 junction 0 = 0

@@ -378,6 +378,20 @@ public final class UndoEdgesTest {
                 restore = 0
                 junction 7 = 0
                 """, anew);
+        Rows.run("42 the position, kind and least green of what was made anew since", """
+                junction 5 = 0
+                group 0 1 9 true = 0
+                save = 1
+                2 x undo = 0
+                junction 7 = 0
+                group 0 2 4 false = 0
+                restore = 1
+                told 0 0 = 5
+                groupTold 0 0 0 = 1
+                groupTold 0 0 1 = 9
+                groupTold 0 0 2 = 1
+                mount 0 0 0 0 ! UnsupportedOperation
+                """);
         Rows.run("40 a group that is made anew", """
                 junction 5 = 0
                 group 0 2 4 true = 0
